@@ -1,0 +1,145 @@
+import java.io.IOException;
+import java.lang.reflect.Constructor;
+import java.lang.reflect.Field;
+import java.lang.reflect.Method;
+import java.lang.reflect.Modifier;
+import java.nio.file.Files;
+import java.nio.file.Path;
+import java.util.ArrayList;
+import java.util.Arrays;
+import java.util.HashSet;
+import java.util.List;
+import java.util.Set;
+import java.util.TreeSet;
+import java.util.regex.Matcher;
+import java.util.regex.Pattern;
+
+/** The class's face is the document's, and the source keeps to what can be seen of LANGUAGE.md. */
+public final class RailPowerFace {
+    private static final String[] METHODS = {
+        "int rule(int, int)", "int station(int, int)", "int set(int, boolean)", "int trip(int, int)",
+        "int about(int, int)", "int train()", "int run(int, int, int, int)",
+        "int runs(int, int, int, int, int)", "int putOff(int, int)", "int at(int, int, int)",
+        "int feeds(int)", "long volts(int, int, int)", "long gives(int, int, int)", "long lowest(int)",
+        "int safe()", "int firstOut()", "long most(int)", "int shorted(int, int)", "int right(int)",
+        "long peak(int, int)", "long used(int)", "long given(int)", "long best(int)",
+        "int sheet(int, int, int)", "int lose(int)", "int put(int, int, int)", "long cell(int, int, int)",
+        "int tell(int)", "int call(int)", "int as(int, int)", "int trace()", "int fault()", "int many(int)",
+    };
+    private static final String[] FIELDS = {
+        "int UNKNOWN", "int OUTSIDE", "int STATE", "int FULL", "int NONE", "long LOST",
+    };
+    private static final String[] NEVER = {
+        "\\b(throw|throws|try|catch|synchronized|assert|import|package|protected|native|volatile)\\b",
+        "->", "::", "\\bException\\b", "Exact\\s*\\(", "\\b(float|double)\\b", "@\\w+",
+    };
+
+    private static int wrong = 0;
+
+    public static void main(String[] args) throws IOException {
+        face();
+        inside();
+        source();
+        System.out.println(wrong == 0 ? "the face is the document's" : wrong + " faults");
+        if (wrong != 0) {
+            System.exit(1);
+        }
+    }
+
+    private static void check(boolean holds, String what) {
+        if (!holds) {
+            wrong++;
+            System.out.println(what);
+        }
+    }
+
+    private static void face() {
+        check(Modifier.isPublic(RailPower.class.getModifiers()), "the class is not public");
+        check(Modifier.isFinal(RailPower.class.getModifiers()), "the class is not final");
+        Set<String> methods = new TreeSet<>();
+        Set<String> names = new HashSet<>();
+        for (Method method : RailPower.class.getDeclaredMethods()) {
+            if (Modifier.isPublic(method.getModifiers())) {
+                methods.add(told(method));
+                names.add(method.getName());
+            } else {
+                check(Modifier.isPrivate(method.getModifiers()), "not private: " + method);
+            }
+        }
+        check(methods.equals(new TreeSet<>(Arrays.asList(METHODS))), "methods: " + methods);
+        for (Method method : RailPower.class.getDeclaredMethods()) {
+            check(Modifier.isPublic(method.getModifiers()) || !names.contains(method.getName()),
+                    "bears the name of a public one: " + method);
+        }
+        Set<String> fields = new TreeSet<>();
+        for (Field field : RailPower.class.getDeclaredFields()) {
+            if (Modifier.isPublic(field.getModifiers())) {
+                fields.add(field.getType() + " " + field.getName());
+                check(Modifier.isStatic(field.getModifiers()) && Modifier.isFinal(field.getModifiers()),
+                        "no constant: " + field);
+            } else {
+                check(Modifier.isPrivate(field.getModifiers()), "not private: " + field);
+            }
+        }
+        check(fields.equals(new TreeSet<>(Arrays.asList(FIELDS))), "fields: " + fields);
+        Constructor<?>[] constructors = RailPower.class.getDeclaredConstructors();
+        check(constructors.length == 1 && Modifier.isPublic(constructors[0].getModifiers())
+                && constructors[0].getParameterCount() == 0, "constructors: " + Arrays.toString(constructors));
+    }
+
+    private static String told(Method method) {
+        List<String> types = new ArrayList<>();
+        for (Class<?> type : method.getParameterTypes()) {
+            types.add(type.getName());
+        }
+        return method.getReturnType() + " " + method.getName() + "(" + String.join(", ", types) + ")";
+    }
+
+    private static void inside() {
+        List<Class<?>> classes = new ArrayList<>(Arrays.asList(RailPower.class.getDeclaredClasses()));
+        check(classes.size() <= 11, "too many classes: " + classes.size());
+        classes.add(RailPower.class);
+        for (Class<?> type : classes) {
+            check(type == RailPower.class || Modifier.isStatic(type.getModifiers()), "not static: " + type);
+            int fields = 0;
+            for (Field field : type.getDeclaredFields()) {
+                if (Modifier.isStatic(field.getModifiers())) {
+                    check(Modifier.isFinal(field.getModifiers()), "static and not final: " + field);
+                } else {
+                    fields++;
+                }
+            }
+            check(fields <= 20, "too many fields: " + type);
+            for (Method method : type.getDeclaredMethods()) {
+                check(method.getParameterCount() <= 7, "too many parameters: " + method);
+            }
+        }
+    }
+
+    private static void source() throws IOException {
+        String text = Files.readString(Path.of("src/main/java/RailPower.java"));
+        String code = text.replaceAll("(?s)/\\*.*?\\*/", "").replaceAll("//[^\n]*", "");
+        for (String never : NEVER) {
+            Matcher found = Pattern.compile(never).matcher(code);
+            check(!found.find(), "not in LANGUAGE.md: " + never);
+        }
+        check(text.chars().allMatch(sign -> sign < 128), "a sign beyond 127");
+        longMethods(text.split("\n"));
+    }
+
+    private static void longMethods(String[] rows) {
+        Pattern start = Pattern.compile("( {4}| {8})(?!(if|for|while|switch|else|do)\\b)\\w[^;=]*\\(.*\\) \\{");
+        String end = "";
+        int begun = 0;
+        for (int i = 0; i < rows.length; i++) {
+            Matcher method = start.matcher(rows[i]);
+            if (method.matches()) {
+                begun = i;
+                end = method.group(1) + "}";
+            } else if (rows[i].equals(end)) {
+                check(i - begun < 60, "a long method ends at line " + (i + 1));
+                end = "";
+            }
+        }
+    }
+}
