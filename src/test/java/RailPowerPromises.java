@@ -26,6 +26,7 @@ public final class RailPowerPromises {
         feedsFirstSet();
         volts();
         takenBack();
+        allTakenBack();
         gives();
         lowest();
         safe();
@@ -35,6 +36,7 @@ public final class RailPowerPromises {
         right();
         rightOfIdleSwitch();
         peak();
+        peakAfterChanges();
         used();
         given();
         best();
@@ -153,6 +155,9 @@ public final class RailPowerPromises {
         due("a TRAIN beyond, PUT OFF", x.rule(0, 59), -3);
         due("a TRAIN at the end", x.rule(0, 60), 100);
         x.run(0, 23, -1, 0);
+        x.run(0, 0, 41, 1);
+        due("a TRAIN beyond at TICK 0", x.rule(0, 40), -3);
+        x.run(0, 0, -1, 0);
         due("a TRAIN away", x.rule(0, 40), 60);
     }
 
@@ -475,6 +480,23 @@ public final class RailPowerPromises {
         due("as told", x.at(1, 1, 1), -399);
     }
 
+    private static void allTakenBack() {
+        begin(13);
+        x.station(0, 0);
+        x.station(0, 100);
+        for (int n = 0; n < 5; n++) {
+            x.train();
+            x.run(n, 0, 20 * n + 10, -400);
+        }
+        x.run(0, 1, 100, 10);
+        due("feeds(1)", x.feeds(1), 2);
+        due("feeds(0)", x.feeds(0), 1);
+        share("V", x.volts(0, 50, 0), x.volts(0, 50, 1), 750, 1);
+        for (int n = 0; n < 5; n++) {
+            due("at(" + n + ", 0, 2)", x.at(n, 0, 2), 0);
+        }
+    }
+
     private static void gives() {
         begin(14);
         due("DARK", x.gives(0, 0, 0), LOST);
@@ -636,6 +658,12 @@ public final class RailPowerPromises {
         due("one has all", x.right(400), 2);
         x.rule(0, 200);
         due("beyond it, too", x.right(401), 0);
+        x.run(0, 23, 50, 400);
+        x.trip(1, 400);
+        x.run(0, 3, -1, 0);
+        due("at the last TICK", x.right(401), 1);
+        x.putOff(0, 1);
+        due("left out beyond it", x.right(401), 0);
     }
 
     // Only a STATION that FEEDS can trip; of those that give nothing just the first FEEDS.
@@ -691,6 +719,30 @@ public final class RailPowerPromises {
         due("peak(1, 13)", x.peak(1, 13), LOST);
         due("peak(1, MIN)", x.peak(1, MIN), LOST);
         due("peak(1, MAX)", x.peak(1, MAX), LOST);
+    }
+
+    // What peak and best answered before is no longer so.
+    private static void peakAfterChanges() {
+        begin(21);
+        x.station(0, 0);
+        x.rule(1, 10);
+        x.train();
+        x.train();
+        x.run(0, 0, 0, 400);
+        x.run(1, 0, 100, -200);
+        x.run(0, 1, 0, 300);
+        x.run(1, 1, 0, 0);
+        share("at TOP 900", x.peak(1, 0), x.peak(1, 1), 300, 1);
+        due("best(0)", x.best(0), 1);
+        x.rule(3, 800);
+        share("at TOP 800", x.peak(1, 0), x.peak(1, 1), 350, 1);
+        x.station(0, 100);
+        x.run(1, 1, 100, 320);
+        share("another TRAIN's AMPERES", x.peak(1, 0), x.peak(1, 1), 350, 1);
+        x.set(0, false);
+        share("without 0", x.peak(1, 0), x.peak(1, 1), 400, 1);
+        x.train();
+        due("a new TRAIN", x.peak(1, 12), 0);
     }
 
     private static void used() {
@@ -763,6 +815,15 @@ public final class RailPowerPromises {
         due("60 is not free", x.best(0), 59);
         share("LOWEST then", x.best(1), x.best(2), 729, 1);
         due("there is no new STATION", x.many(0), 2);
+        x.rule(1, 20);
+        share("with another R", x.best(1), x.best(2), 708, 1);
+        x.run(0, 0, -1, 0);
+        due("with a TRAIN less", x.best(0), 40);
+        x.run(0, 0, 80, 100);
+        x.run(0, 23, 0, 400);
+        due("with a TRAIN more", x.best(0), 16);
+        x.putOff(0, 1);
+        due("with a TRAIN left out", x.best(0), 59);
         due("best(-1)", x.best(-1), LOST);
         due("best(3)", x.best(3), LOST);
     }
@@ -808,10 +869,12 @@ public final class RailPowerPromises {
         due("fault()", x.fault(), 0);
         due("of none", x.put(0, 0, 1), -13);
         due("sheet(0, 2, 60)", x.sheet(0, 2, 60), 1);
+        x.put(0, 0, 6);
         x.put(0, 59, 7);
         due("sheet(0, 0, 61)", x.sheet(0, 0, 61), -2);
         due("it is as it was", x.cell(0, 59, 2), 7);
         due("sheet(0, 2, 60)", x.sheet(0, 2, 60), 1);
+        due("a new row", x.cell(0, 0, 2), 0);
         due("a new row", x.cell(0, 59, 2), 0);
         due("sheet(3, 1, 2)", x.sheet(3, 1, 2), 1);
         due("put(3, 2, 1)", x.put(3, 2, 1), -13);
