@@ -378,6 +378,11 @@ public final class RailPowerBoundaries {
                 "volts(0, 20, *) = 750/1; volts(0, 21, *) = 2999/4; volts(0, 49, *) = 2971/4; volts(0, 50, *) = 1485/2; volts(0, 51, *) = 2973/4",
                 "volts(0, 59, *) = 2997/4; volts(0, 60, *) = 750/1; volts(0, 61, *) = 750/1; volts(0, 19, *) = 750/1; volts(0, 0, *) = 750/1; volts(0, 100, *) = 750/1",
                 "gives(0, 0, *) = 25/1; gives(0, 1, *) = 75/1");
+        says("only LOADS between them count, and only their own neighbour's share",
+                "rule(1, 10); station(0, 20); station(0, 60); station(0, 80); train(); train(); train(); train()",
+                "run(0, 0, 50, 100); run(1, 0, 70, 40); run(2, 0, 10, 10); run(3, 0, 90, 20); feeds(0) = 7",
+                "volts(0, 40, *) = 745/1; volts(0, 50, *) = 1485/2; volts(0, 60, *) = 750/1; volts(0, 65, *) = 749/1; volts(0, 70, *) = 748/1",
+                "volts(0, 0, *) = 749/1; volts(0, 100, *) = 748/1; gives(0, 0, *) = 35/1; gives(0, 1, *) = 95/1; gives(0, 2, *) = 40/1");
         says("LOADS at a or b are not between them",
                 "rule(1, 10); station(0, 20); station(0, 60); train(); train(); run(0, 0, 20, 300); run(1, 0, 60, 200)",
                 "feeds(0) = 3; gives(0, 0, *) = 300/1; gives(0, 1, *) = 200/1; volts(0, 40, *) = 750/1; volts(0, 0, *) = 750/1; volts(0, 100, *) = 750/1",
@@ -425,9 +430,22 @@ public final class RailPowerBoundaries {
                 "station(0, 100); station(0, 0); station(0, 50); station(0, 25); station(0, 75); train(); train(); train(); train(); train()",
                 "run(0, 0, 10, 1); run(1, 0, 30, 1); run(2, 0, 60, 1); run(3, 0, 80, 1); feeds(0) = 31",
                 "run(4, 0, 100, 400); feeds(0) = 31; gives(0, 0, *) = 2001/5; run(4, 0, 100, -1); feeds(0) = 30; run(3, 0, 80, 5); feeds(0) = 30; run(3, 0, 80, 6); feeds(0) = 31");
+        says("one that would take is left out, on the left, too",
+                "rule(1, 10); station(0, 20); station(0, 60); train(); train(); run(0, 0, 50, 100); run(1, 0, 10, -40); feeds(0) = 2",
+                "gives(0, 0, *) = 0/1; gives(0, 1, *) = 60/1; volts(0, 10, *) = 760/1; volts(0, 20, *) = 756/1; volts(0, 50, *) = 744/1",
+                "run(1, 0, 10, -25); feeds(0) = 2; volts(0, 20, *) = 750/1; run(1, 0, 10, -24); feeds(0) = 3; gives(0, 0, *) = 1/1");
+        says("gives 0 or more: -1 is too little, with 0 it need not FEED, 1 is enough",
+                "station(0, 0); station(0, 1); train(); train(); run(0, 0, 0, 5); run(1, 0, 1, -1); feeds(0) = 1; gives(0, 0, *) = 4/1; gives(0, 1, *) = 0/1",
+                "volts(0, 1, *) = 750001/1000; run(1, 0, 1, 0); feeds(0) = 1; run(1, 0, 1, 1); feeds(0) = 3; gives(0, 1, *) = 1/1",
+                "run(0, 0, 0, 0); feeds(0) = 2; gives(0, 0, *) = 0/1; gives(0, 1, *) = 1/1");
         says("as much given back as pulled: only who has just V",
                 "station(0, 90); station(0, 10); station(0, 50); train(); train(); run(0, 0, 20, 60); run(1, 0, 80, -60)",
                 "feeds(0) = 2; gives(0, 1, *) = 0/1; volts(0, 90, *) = 3768/5; volts(0, 20, *) = 750/1; volts(0, 0, *) = 750/1");
+        says("as much given back as pulled: of those that have just V the first",
+                "station(0, 80); station(0, 90); station(0, 10); train(); train(); run(0, 0, 70, 60); run(1, 0, 20, -60); feeds(0) = 1; gives(0, 0, *) = 0/1",
+                "set(0, false); feeds(0) = 2; volts(0, 10, *) = 753/1; set(0, true); set(1, false); feeds(0) = 1; set(0, false); feeds(0) = 4; volts(0, 90, *) = 747/1");
+        says("as much given back as pulled: the first STATION has more than V",
+                "station(0, 10); station(0, 80); station(0, 90); train(); train(); run(0, 0, 70, 60); run(1, 0, 20, -60); feeds(0) = 2; gives(0, 1, *) = 0/1; volts(0, 10, *) = 753/1");
     }
 
     private static void takenBack() {
@@ -438,10 +456,16 @@ public final class RailPowerBoundaries {
                 "station(0, 0); train(); run(0, 0, 10, -1); at(0, 0, 2) = 0; run(0, 1, 10, -400); at(0, 1, 2) = 0; train(); run(1, 2, 0, 1)",
                 "run(0, 2, 10, -1); at(0, 2, 2) = -1; run(0, 2, 10, -2); at(0, 2, 2) = -1; run(0, 2, 10, -3); at(0, 2, 2) = -1; run(0, 2, 10, -4); at(0, 2, 2) = -1",
                 "run(0, 2, 10, -400); at(0, 2, 2) = -1; run(1, 2, 0, 2); at(0, 2, 2) = -1; run(1, 2, 0, 3); at(0, 2, 2) = -3; run(0, 2, 10, -399); at(0, 2, 2) = -3");
+        says("all TRAINS give back all they may, and nothing is pulled",
+                "station(0, 0); station(0, 100); train(); train(); train(); train(); train(); run(0, 0, 10, -400); run(1, 0, 30, -400); run(2, 0, 50, -400)",
+                "run(3, 0, 70, -400); run(4, 0, 90, -400); run(0, 1, 100, 10); feeds(1) = 2; feeds(0) = 1; volts(0, 50, *) = 750/1",
+                "at(0, 0, 2) = 0; at(1, 0, 2) = 0; at(2, 0, 2) = 0; at(3, 0, 2) = 0; at(4, 0, 2) = 0; gives(0, 0, *) = 0/1; used(0) = 7500; used(4) = 0");
         says("no set FEEDS: the one that gives back most, of like ones the first",
                 "station(0, 0); train(); train(); train(); run(0, 0, 10, -400); run(1, 0, 20, -400); run(2, 0, 0, 400)",
                 "at(0, 0, 2) = -200; at(1, 0, 2) = -200; run(2, 0, 0, 399); at(0, 0, 2) = -100; at(1, 0, 2) = -200",
                 "run(1, 0, 20, -399); at(0, 0, 2) = -200; at(1, 0, 2) = -199; run(1, 0, 20, -199); at(0, 0, 2) = -200; at(1, 0, 2) = -199");
+        says("no set FEEDS: the one that gives back most still, turn by turn",
+                "station(0, 0); train(); train(); train(); run(0, 0, 10, 100); run(1, 0, 20, -300); run(2, 0, 30, -200); at(1, 0, 2) = -37; at(2, 0, 2) = -50");
         says("the VOLTS at some TRAIN's place are above TOP: as high as TOP they may be",
                 "rule(1, 10); station(0, 0); train(); train(); run(0, 0, 0, 400); run(1, 0, 50, -300); volts(0, 50, *) = 900/1; at(1, 0, 2) = -300",
                 "run(1, 0, 50, -301); at(1, 0, 2) = -150; volts(0, 50, *) = 825/1; rule(3, 825); at(1, 0, 2) = -150; rule(3, 824); at(1, 0, 2) = -75",
@@ -451,6 +475,10 @@ public final class RailPowerBoundaries {
                 "run(0, 0, 60, -300); run(1, 0, 60, -300); rule(3, 810); at(0, 0, 2) = -300; rule(3, 809); at(0, 0, 2) = -150; at(1, 0, 2) = -300",
                 "run(0, 0, 100, 0); rule(3, 779); at(0, 0, 2) = 0; at(1, 0, 2) = -150; run(0, 0, 60, 1); rule(3, 780); at(1, 0, 2) = -300; at(0, 0, 2) = 1",
                 "run(0, 0, 60, -1); at(0, 0, 2) = 0; at(1, 0, 2) = -300; run(0, 0, 20, -101); at(0, 0, 2) = -50; at(1, 0, 2) = -300");
+        says("the highest is no TRAIN that pulls at the same place, and not the last one",
+                "rule(1, 10); rule(3, 780); station(0, 50); train(); train(); train(); run(2, 0, 50, 400); run(0, 0, 60, 1); run(1, 0, 60, -301); at(1, 0, 2) = -301",
+                "run(1, 0, 60, -302); at(1, 0, 2) = -151; at(0, 0, 2) = 1; rule(3, 799); run(0, 1, 50, 400); run(1, 1, 90, -100); run(2, 1, 60, -100)",
+                "at(1, 1, 2) = -50; at(2, 1, 2) = -100; at(0, 1, 2) = 400; rule(3, 800); at(1, 1, 2) = -100");
         says("TRAINS of other TICKS take nothing back",
                 "station(0, 0); train(); train(); run(0, 0, 10, -100); run(1, 1, 10, 100); at(0, 0, 2) = 0; putOff(0, 1); at(0, 1, 2) = -100; at(1, 1, 2) = 100");
     }
@@ -501,6 +529,10 @@ public final class RailPowerBoundaries {
                 "rule(1, 10); station(0, 50); train(); train(); train(); run(2, 0, 60, 100); run(1, 5, 40, 100); run(0, 23, 60, 100)",
                 "lowest(*) = 740/1; lowest(2) = 0; lowest(3) = 2; run(1, 0, 40, 100); lowest(3) = 1; run(0, 0, 70, 0); lowest(3) = 0; run(0, 0, 59, 0); lowest(3) = 1",
                 "putOff(2, 1); putOff(1, 1); lowest(2) = 1; lowest(3) = 1; run(0, 23, 60, 101); lowest(2) = 23; lowest(3) = 0; lowest(*) = 7399/10");
+        says("the least over all TICKS, also below 0, whatever was looked at before",
+                "rule(0, 200); rule(4, 1); rule(2, 100); rule(1, 20); station(0, 0); train(); run(0, 0, 100, 50); run(0, 5, 100, 51); run(0, 23, 200, 400)",
+                "lowest(*) = -1500/1; lowest(2) = 23; most(*) = 400/1; lowest(2) = 23; run(0, 23, -1, 0); lowest(*) = -2/1; lowest(2) = 5; most(*) = 51/1; lowest(2) = 5",
+                "peak(1, *) = 51/1; best(0) = 100; lowest(2) = 5; run(0, 5, -1, 0); lowest(*) = 0/1; lowest(2) = 0; most(*) = 50/1");
         says("the VOLTS are those SOLVED",
                 "rule(1, 10); station(0, 0); train(); train(); run(0, 0, 100, 100); run(1, 0, 100, -100); lowest(*) = 750/1; run(1, 0, 100, -101); lowest(*) = 700/1");
     }
@@ -521,6 +553,8 @@ public final class RailPowerBoundaries {
         says("17: or DARK",
                 "firstOut() = STATE; station(0, 0); firstOut() = 0; station(0, 1); firstOut() = NONE; set(0, false); firstOut() = 1; set(1, false); firstOut() = STATE",
                 "station(0, 2); station(0, 3); station(0, 4); set(2, false); set(3, false); firstOut() = 4; many(1) = 1");
+        says("17: NONE: there is none, of five STATIONS",
+                "station(0, 0); station(0, 1); station(0, 2); station(0, 3); station(0, 4); firstOut() = NONE; rule(1, 20); rule(4, 750); train(); run(0, 23, 4, 1); firstOut() = 4");
         says("17: one that is OUT is not left out once more",
                 "rule(1, 20); rule(4, 750); station(0, 0); station(0, 1); station(0, 2); set(0, false); train(); run(0, 0, 1, 1); firstOut() = 1; run(0, 0, 2, 1); firstOut() = 2",
                 "set(0, true); firstOut() = 2; run(0, 0, 50, 1); firstOut() = 0");
@@ -544,6 +578,9 @@ public final class RailPowerBoundaries {
                 "station(0, 60); station(0, 20); station(0, 80); train(); run(0, 0, 60, -400); run(0, 1, 60, 400)",
                 "shorted(0, 1) = 2; shorted(19, 1) = 2; shorted(20, 1) = 2; shorted(21, 1) = 3; shorted(59, 1) = 3; shorted(60, 1) = 1; shorted(61, 1) = 5",
                 "shorted(79, 1) = 5; shorted(80, 1) = 4; shorted(81, 1) = 4; shorted(100, 1) = 4; set(0, false); shorted(60, 1) = 6");
+        says("A FAULT: LOADS are one, alone, whatever was looked at before",
+                "station(0, 0); station(0, 100); train(); train(); train(); run(1, 23, 50, 400); run(2, 23, 50, 400); feeds(23) = 3; shorted(0, 1) = 1; shorted(100, 1) = 2",
+                "right(6000) = 0; right(5999) = 2; feeds(23) = 3; shorted(0, 100000) = 1");
     }
 
     private static void right() {
@@ -590,6 +627,10 @@ public final class RailPowerBoundaries {
         says("what is given back counts as it is SOLVED on that way",
                 "station(0, 0); train(); train(); run(0, 0, 10, -100); run(1, 1, 10, 100); peak(1, *) = 0/1; peak(1, 10) = 1; peak(1, 11) = 0; most(*) = 100/1",
                 "run(0, 0, 10, -101); peak(1, *) = 50/1; peak(1, 10) = 1; run(0, 0, 10, 0); peak(1, *) = 100/1; peak(1, 10) = 0");
+        says("21, 24: what was answered before holds only until the line is told otherwise",
+                "station(0, 0); train(); run(0, 0, 50, 100); best(0) = 50; peak(1, *) = 100/1; sheet(0, 1, 2); put(0, 0, 60); put(0, 1, 200); best(0) = 50",
+                "runs(0, 0, 1, 0, 1) = 1; best(0) = 60; peak(1, *) = 200/1; run(0, 1, 0, 300); peak(1, *) = 300/1; peak(2, *) = 300/1; runs(0, 0, 1, 2, 0) = 0",
+                "best(0) = LOST; peak(1, *) = 0/1; peak(2, *) = 0/1");
     }
 
     private static void used() {
