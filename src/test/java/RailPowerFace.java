@@ -1,20 +1,15 @@
-import java.io.IOException;
 import java.lang.reflect.Constructor;
 import java.lang.reflect.Field;
 import java.lang.reflect.Method;
 import java.lang.reflect.Modifier;
-import java.nio.file.Files;
-import java.nio.file.Path;
 import java.util.ArrayList;
 import java.util.Arrays;
 import java.util.HashSet;
 import java.util.List;
 import java.util.Set;
 import java.util.TreeSet;
-import java.util.regex.Matcher;
-import java.util.regex.Pattern;
 
-/** The class's face is the document's, and the source keeps to what can be seen of LANGUAGE.md. */
+/** The class's face is the document's, and nothing else of it can be seen (LANGUAGE.md, 1). */
 public final class RailPowerFace {
     private static final String[] METHODS = {
         "int rule(int, int)", "int station(int, int)", "int set(int, boolean)", "int trip(int, int)",
@@ -29,17 +24,11 @@ public final class RailPowerFace {
     private static final String[] FIELDS = {
         "int UNKNOWN", "int OUTSIDE", "int STATE", "int FULL", "int NONE", "long LOST",
     };
-    private static final String[] NEVER = {
-        "\\b(throw|throws|try|catch|synchronized|assert|import|package|protected|native|volatile)\\b",
-        "->", "::", "\\bException\\b", "Exact\\s*\\(", "\\b(float|double)\\b", "@\\w+",
-    };
 
     private static int wrong = 0;
 
-    public static void main(String[] args) throws IOException {
+    public static void main(String[] args) {
         face();
-        inside();
-        source();
         System.out.println(wrong == 0 ? "the face is the document's" : wrong + " faults");
         if (wrong != 0) {
             System.exit(1);
@@ -93,53 +82,5 @@ public final class RailPowerFace {
             types.add(type.getName());
         }
         return method.getReturnType() + " " + method.getName() + "(" + String.join(", ", types) + ")";
-    }
-
-    private static void inside() {
-        List<Class<?>> classes = new ArrayList<>(Arrays.asList(RailPower.class.getDeclaredClasses()));
-        check(classes.size() <= 11, "too many classes: " + classes.size());
-        classes.add(RailPower.class);
-        for (Class<?> type : classes) {
-            check(type == RailPower.class || Modifier.isStatic(type.getModifiers()), "not static: " + type);
-            int fields = 0;
-            for (Field field : type.getDeclaredFields()) {
-                if (Modifier.isStatic(field.getModifiers())) {
-                    check(Modifier.isFinal(field.getModifiers()), "static and not final: " + field);
-                } else {
-                    fields++;
-                }
-            }
-            check(fields <= 20, "too many fields: " + type);
-            for (Method method : type.getDeclaredMethods()) {
-                check(method.getParameterCount() <= 7, "too many parameters: " + method);
-            }
-        }
-    }
-
-    private static void source() throws IOException {
-        String text = Files.readString(Path.of("src/main/java/RailPower.java"));
-        String code = text.replaceAll("(?s)/\\*.*?\\*/", "").replaceAll("//[^\n]*", "");
-        for (String never : NEVER) {
-            Matcher found = Pattern.compile(never).matcher(code);
-            check(!found.find(), "not in LANGUAGE.md: " + never);
-        }
-        check(text.chars().allMatch(sign -> sign < 128), "a sign beyond 127");
-        longMethods(text.split("\n"));
-    }
-
-    private static void longMethods(String[] rows) {
-        Pattern start = Pattern.compile("( {4}| {8})(?!(if|for|while|switch|else|do)\\b)\\w[^;=]*\\(.*\\) \\{");
-        String end = "";
-        int begun = 0;
-        for (int i = 0; i < rows.length; i++) {
-            Matcher method = start.matcher(rows[i]);
-            if (method.matches()) {
-                begun = i;
-                end = method.group(1) + "}";
-            } else if (rows[i].equals(end)) {
-                check(i - begun < 60, "a long method ends at line " + (i + 1));
-                end = "";
-            }
-        }
     }
 }
