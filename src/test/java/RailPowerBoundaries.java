@@ -307,6 +307,8 @@ public final class RailPowerBoundaries {
         says("9: the TRAIN stays PUT OFF, the SHEET stays as it is",
                 "train(); putOff(0, 2); sheet(0, 2, 2); put(0, 0, 9); put(0, 1, 8); runs(0, 0, 2, 0, 1) = 1",
                 "at(0, 0, 0) = NONE; at(0, 2, 0) = 9; at(0, 2, 1) = 8; cell(0, 0, 2) = 9; cell(0, 1, 2) = 8; putOff(0, 2) = 2");
+        says("9: at how many it is not away, of its own TICKS: those left out since it is PUT OFF count",
+                "train(); putOff(0, 5); sheet(0, 0, 48); runs(0, 0, 0, 0, 24) = 24; many(3) = 19; at(0, 4, 0) = NONE; at(0, 5, 0) = 0; putOff(0, 0); many(3) = 24");
     }
 
     private static void runManyRefused() {
